@@ -1,5 +1,16 @@
 /** Compares answers with what is due, and ends a test. */
 final class Check {
+    /** What digest tells of a new object between the counts and the bytes of THE PLAN. */
+    static final long[] UNTOLD = {
+        10, 1, 10, 1, 10, 1, 10, 1,
+        0, 0,
+        0,
+        1,
+        1, 0, 0, 0, 0, 0, 0, 1, 0, 0, 0, 0, 0, 0, 1, 0, 0, 0, 0, 0, 0,
+        0, 0, 0, 0, 0, 0, 0, 0, 0, 0, 0, 0, 0, 0, 0, 0};
+    /** What it tells of THE FRACTION at first. */
+    static final long[] NO_FRACTION = {0, 0, 1, 1};
+
     private static int checks = 0;
     private static int wrong = 0;
 
