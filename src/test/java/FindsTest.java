@@ -207,6 +207,8 @@ public final class FindsTest {
         x.thorn(1, 0, 1, 1);
         hand(x, 1, 7, 8, 28, 31);
         hand(x, 0, 7, 8, 7, 19);
+        hand(x, 1, 5, 5, 1, 2);
+        hand(x, 0, 5, 5, 1, 2);
         hand(x, 1, 0, 5, 0, 1);
         hand(x, 1, 10, 5, 1, 1);
         hand(x, 0, 10, 0, 1, 1);
@@ -327,6 +329,15 @@ public final class FindsTest {
     private static void came() {
         ThrowHook x = new ThrowHook();
         cameIs("nothing", x, 0, 8, 0);
+        for (int i = 0; i < 8; i++) {
+            ThrowHook one = new ThrowHook();
+            one.layer(i, 0, 1);
+            cameIs("an arrow at " + i, one, 0, i, 0);
+            if (i > 0) {
+                one.layer(i - 1, 1, 1);
+                cameIs("a dart, then an arrow at " + i, one, i, i, 0);
+            }
+        }
         x.layer(2, 1, 5);
         cameIs("darts at 2", x, 3, 8, 0);
         x.layer(5, 0, 4);

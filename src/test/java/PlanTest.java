@@ -56,6 +56,10 @@ public final class PlanTest {
         Check.due(31, "count(6)", x.count(6), 0);
         Check.type(x, THREE);
         Check.due(31, "type behind it", x.fault(), -1);
+        // What was told ahead is not told any more.
+        x.clear();
+        Check.type(x, "throw 0 0 0;");
+        Check.due(31, "a throw alone", x.fault(), 0);
         Check.status("clear", x, 0, 0, 0);
     }
 

@@ -10,6 +10,7 @@ public final class StoriesTest {
         tries();
         odds();
         nothingToNothing();
+        likeOdds();
         greatOdds();
         oddsRefused();
         parts();
@@ -109,6 +110,21 @@ public final class StoriesTest {
         x.tries(3, 2);
         Check.due(12, "odds", x.odds(1), 1);
         Check.fraction(12, "CHANCE 20, two better", x, 0, 1);
+    }
+
+    /** Like CHANCES cancel, whatever they are; four weights together may have a digit more than each. */
+    private static void likeOdds() {
+        for (int chance = 1; chance < 20; chance++) {
+            ThrowHook x = new ThrowHook();
+            for (int i = 0; i < 4; i++) {
+                x.story(i, 0, chance);
+            }
+            for (int n = 0; n <= 30; n += 3) {
+                x.tries(n, n / 2);
+                Check.due(12, "odds", x.odds(n % 4), 1);
+                Check.fraction(12, "like ones of " + chance + ", " + n, x, 1, 4);
+            }
+        }
     }
 
     private static BigInteger weight(int prior, int chance, int n, int k) {

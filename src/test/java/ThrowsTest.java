@@ -18,6 +18,7 @@ public final class ThrowsTest {
         lengths();
         straight();
         contest();
+        cleanAgain();
         Check.end();
     }
 
@@ -122,6 +123,9 @@ public final class ThrowsTest {
         flung("EARLY", x, new int[] {1, 5, 0, 0, 0, 0}, 25, 5, 3, 7, 150, 5);
         flung("EARLY by 9", x, new int[] {1, 9, 0, 0, 0, 0}, 5, 1, 0, 10, 150, 5);
         flung("EARLY by 19", x, new int[] {1, 19, 0, 0, 0, 0}, 5, 1, 0, 10, 150, 5);
+        flung("EARLY by 8", x, new int[] {1, 8, 0, 0, 0, 0}, 10, 2, 0, 10, 150, 5);
+        flung("OVERARM by 8", x, new int[] {5, 8, 0, 0, 0, 0}, 10, 2, 0, 10, 150, 5);
+        flung("OVERARM by 19", x, new int[] {5, 19, 0, 0, 0, 0}, 5, 1, 0, 10, 150, 5);
         // SOFT: half of 1 is 1 at least. HARD: END times 10 by 20.
         flung("SOFT", x, new int[] {2, 0, 0, 0, 0, 0}, 50, 10, 8, 2, 150, 5);
         flung("HARD", x, new int[] {3, 0, 0, 0, 0, 0}, 50, 10, 3, 7, 150, 5);
@@ -148,10 +152,15 @@ public final class ThrowsTest {
         flung("WEIGHTED", x, new int[] {6, 7, 0, 0, 0, 3}, 22299, 746, 43, 13, 6921, 75);
         flung("HARD beyond 99", x, new int[] {3, 0, 0, 0, 1, 3}, 45738, 773, 14, 0, 7408, 77);
         flung("SOFT at 1", x, new int[] {2, 0, 0, 0, 2, 3}, 0, 774, 1435, 1405, 7446, 77);
+        // HARD of 50 is 99.
+        x.arm(67, 41, 7);
+        x.hook(23, 16, 4);
+        x.dart(148, 50, 41, 9);
+        flung("HARD at 99", x, new int[] {3, 0, 1, 1, 3, 5}, 5008, 270, 10, 0, 2190, 42);
         // WEIGHTED may come beyond what a HOOK may have.
         x.hook(1, 99, 1);
-        flung("WEIGHTED by 0", x, new int[] {6, 0, 0, 1, 0, 0}, 2365, 488, 28, 0, 150, 5);
-        flung("WEIGHTED beyond 99", x, new int[] {6, 19, 0, 1, 0, 0}, 2200, 455, 27, 0, 150, 5);
+        flung("WEIGHTED by 0", x, new int[] {6, 0, 0, 2, 0, 0}, 2365, 488, 28, 0, 150, 5);
+        flung("WEIGHTED beyond 99", x, new int[] {6, 19, 0, 2, 0, 0}, 2200, 455, 27, 0, 150, 5);
     }
 
     private static void angles() {
@@ -215,6 +224,9 @@ public final class ThrowsTest {
         for (int d : new int[] {41, 50, 51, 1000, 20000}) {
             Check.due(6, "strikes at " + d, x.strikes(0, 0, 0, 0, d), 0);
         }
+        // What it struck ahead does not count for what it never comes to.
+        Check.due(6, "strikes at 40", x.strikes(0, 0, 0, 0, 40), 1);
+        Check.due(6, "strikes at 20000", x.strikes(0, 0, 0, 0, 20000), 0);
         // By ANGLE it is at 180 first, too high then, and low enough once more.
         x.arm(52, 59, 6);
         x.hook(18, 1, 1);
@@ -241,6 +253,39 @@ public final class ThrowsTest {
         Check.due(6, "strikes, off, at 698", x.strikes(3, 2, 3, 0, 698), 1);
         Check.due(6, "strikes, off, at 699", x.strikes(3, 2, 3, 0, 699), 0);
         Check.status("strikes", x, 0, 0, 0);
+        lastOfAll();
+    }
+
+    /** Behind its 149th ROUND it is at 19465 and at a height of 1. */
+    private static void lastOfAll() {
+        ThrowHook x = new ThrowHook();
+        x.arm(53, 61, 0);
+        x.hook(54, 0, 0);
+        x.dart(31, 94, 2, 9);
+        flung("a long one", x, new int[] {0, 0, 0, 0, 0, 6}, 19506, 862, 8, 2, 27826, 150);
+        int[] far = {19424, 19425, 19465, 19466, 19506};
+        int[] want = {0, 1, 1, 0, 0};
+        for (int i = 0; i < 5; i++) {
+            Check.due(6, "strikes at " + far[i], x.strikes(0, 0, 0, 6, far[i]), want[i]);
+        }
+    }
+
+    /** What is CLEAN stays so behind a throw of another KIND. */
+    private static void cleanAgain() {
+        ThrowHook x = thrower();
+        int[] far = {10, 2000, 2899, 2900, 3578};
+        for (int kind = 0; kind < 7; kind++) {
+            for (int d : far) {
+                x.fling(kind, 17, 0, 0, 0, 5, 0);
+                Check.due(6, "strikes behind KIND " + kind, x.strikes(0, 0, 0, 0, d), d <= 2899 ? 1 : 0);
+            }
+            x.fling(kind, 17, 0, 0, 0, 5, 0);
+            Check.due(7, "length behind KIND " + kind, x.length(0, 0, 0, 3), 40);
+            x.fling(kind, 17, 0, 0, 0, 5, 0);
+            Check.due(8, "straight behind KIND " + kind, x.straight(0, 0, 0, 0), 45);
+            x.fling(kind, 17, 0, 0, 0, 5, 0);
+            Check.due(9, "contest behind KIND " + kind, x.contest(0, 0, 0, 3, 70, 80), 75);
+        }
     }
 
     private static void strikesRefused() {
@@ -269,6 +314,11 @@ public final class ThrowsTest {
         Check.due(7, "length, no weight", x.length(0, 1, 0, 3), 1);
         Check.due(7, "length, a heavy end", x.length(0, 2, 0, 3), 0);
         Check.due(7, "length, heavy ahead of its end", x.length(0, 3, 0, 3), 52);
+        ThrowHook y = new ThrowHook();
+        y.arm(75, 57, 1);
+        y.hook(30, 0, 6);
+        y.dart(185, 22, 47, 3);
+        Check.due(7, "length, the greatest", y.length(0, 0, 0, 5), 99);
         // Too weak to move it by any of them: the least of like ones.
         x.arm(90, 1, 0);
         Check.due(7, "length, like ones", x.length(1, 0, 0, 3), 0);
@@ -314,6 +364,11 @@ public final class ThrowsTest {
         Check.due(9, "contest of a stiff one", x.contest(0, 0, 1, 3, 20, 99), 41);
         Check.due(9, "contest of one", x.contest(0, 0, 0, 3, 77, 77), 77);
         Check.due(9, "contest of the heaviest", x.contest(0, 0, 0, 3, 300, 300), 300);
+        ThrowHook light = new ThrowHook();
+        light.arm(56, 85, 4);
+        light.hook(35, 5, 22);
+        light.dart(29, 29, 47, 1);
+        Check.due(9, "contest, the heaviest is best", light.contest(0, 0, 0, 1, 36, 40), 40);
         int[][] wrong = {{-1, 0, 0, 3, 20, 300}, {1, 0, 0, 3, 20, 300}, {0, 1, 0, 3, 20, 300}, {0, 0, 3, 3, 20, 300},
             {0, 0, 0, 7, 20, 300}, {0, 0, 0, -1, 20, 300}, {0, 0, 0, 3, 19, 300}, {0, 0, 0, 3, 20, 301},
             {0, 0, 0, 3, 51, 50}, {0, 0, 0, 3, Integer.MIN_VALUE, Integer.MAX_VALUE}, {0, 0, 0, 3, 301, 301},
