@@ -1,5 +1,13 @@
+import java.io.IOException;
+import java.nio.file.Files;
+import java.nio.file.Path;
+import java.util.ArrayList;
+import java.util.List;
+
 /** Compares answers with what is due, and ends a test. */
 final class Check {
+    private static final Path DOCUMENT = Path.of("../shared/DOC.md");
+
     /** What digest tells of a new object between the counts and the bytes of THE PLAN. */
     static final long[] UNTOLD = {
         10, 1, 10, 1, 10, 1, 10, 1,
@@ -13,16 +21,33 @@ final class Check {
 
     private static int checks = 0;
     private static int wrong = 0;
+    private static final List<String> sentences = new ArrayList<>();
+    private static int promise = 0;
 
     private Check() {
     }
 
-    static void due(int promise, String call, long got, long want) {
+    /** From here on a test of words that stand in the document; what is wrong is told with them. */
+    static void sentence(int promised, String words) {
+        promise = promised;
+        sentences.add(words);
+    }
+
+    /** The promise of the sentence told last. */
+    static int promise() {
+        return promise;
+    }
+
+    private static String told() {
+        return sentences.isEmpty() ? "" : " (" + sentences.get(sentences.size() - 1) + ")";
+    }
+
+    static void due(int promised, String call, long got, long want) {
         checks++;
         if (got != want) {
             wrong++;
             if (wrong <= 50) {
-                System.out.println("promise " + promise + ": " + call + " answered " + got + ", due is " + want);
+                System.out.println("promise " + promised + told() + ": " + call + " answered " + got + ", due is " + want);
             }
         }
     }
@@ -31,7 +56,7 @@ final class Check {
         checks++;
         if (!holds) {
             wrong++;
-            System.out.println("does not hold: " + what);
+            System.out.println("does not hold" + told() + ": " + what);
         }
     }
 
@@ -77,7 +102,26 @@ final class Check {
         return h;
     }
 
+    /** A sentence that is tested must be one of the document's, so that a new document shows what to read again. */
+    private static void sentencesStand() {
+        String document = "";
+        try {
+            document = Files.readString(DOCUMENT).replaceAll("\\s+", " ");
+        } catch (IOException e) {
+            isTrue(DOCUMENT + " can be read", false);
+        }
+        for (String words : sentences) {
+            if (!document.contains(words)) {
+                wrong++;
+                System.out.println("not in the document: " + words);
+            }
+        }
+    }
+
     static void end() {
+        if (!sentences.isEmpty()) {
+            sentencesStand();
+        }
         System.out.println(checks + " checks, " + wrong + " wrong");
         if (wrong != 0 || checks == 0) {
             System.exit(1);
