@@ -255,7 +255,7 @@ public final class PlanBoundsTest {
     private static void words() {
         Check.sentence(32, "a word that is none");
         String[] none = {"a", "z", "ar", "armm", "arms", "rm", "aarm", "hoo", "hooks", "dar", "darts", "thro", "throws", "three",
-            "clean", "armhook", "abcdefghijklmnopqrstuvwxyz"};
+            "clean", "brm", "fook", "fart", "phrow", "ark", "hood", "dark", "thron", "armhook", "abcdefghijklmnopqrstuvwxyz"};
         for (String word : none) {
             faultIs(word, 0);
             faultIs(word + " 20 1 0;", 0);

@@ -131,6 +131,9 @@ public final class StoryBoundsTest {
             }
             run.is("parts()", one);
         }
+        // The least that there may be is more than nothing, too.
+        stories(10, 0, 10, 0, 10, 0, 10, 1).is("parts()", 3).share("odds(3)", 1, 1).share("odds(0)", 0, 1);
+        stories(10, 0, 19, 1).does("tries(30, 0)").is("parts()", 1).share("odds(1)", 1, 1);
         stories(10, 1, 10, 9).share("odds(0)", 1, 10).share("odds(1)", 9, 10).share("odds(2)", 0, 1);
         stories(19, 1, 1, 1).does("tries(1, 1)").share("odds(0)", 19, 20).share("odds(1)", 1, 20);
     }

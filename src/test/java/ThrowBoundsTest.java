@@ -294,6 +294,9 @@ public final class ThrowBoundsTest {
             Check.isTrue("0 or less behind it", y <= 0);
         }
         Check.sentence(5, "VX is PACE times the one by 100, VY times the other by 100");
+        // By ANGLE 0 no PACE goes up or down: END is 19 times 297, and BEND 51 times 99 by 50 is 100 more.
+        thrower("20, 99, 9", "0, 0, 0", "20, 99, 0, 9").is(fling(0, 0, 0, ROUNDS), 5).is(fling(0, 0, 0, RISE), 150)
+                .is(fling(0, 0, 0, BEND), 51).is(fling(0, 0, 0, PACE), 19 * 297 + 100);
         // PACE 1: nothing of it goes on but by ANGLE 0. PACE 2: 1 by all others, by the highest for a ROUND more.
         run = Run.oneRound(1, 60, 99, 0);
         run.is(fling(1, 19, 0, RANGE), 5).is(fling(1, 19, 1, RANGE), 0).is(fling(1, 19, 6, RANGE), 0);
