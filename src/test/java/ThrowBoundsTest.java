@@ -19,6 +19,7 @@ public final class ThrowBoundsTest {
         handAndEnd();
         bends();
         pace();
+        cuts();
         off();
         angles();
         drag();
@@ -261,6 +262,19 @@ public final class ThrowBoundsTest {
         // BEND 1: STIFF 49 gives nothing, STIFF 50 gives 1.
         Run.oneRound(49, 20, 49, 0).is(fling(1, 19, 0, BEND), 1).is(fling(1, 19, 0, PACE), 147);
         Run.oneRound(50, 20, 50, 0).is(fling(1, 19, 0, BEND), 1).is(fling(1, 19, 0, PACE), 151);
+    }
+
+    private static void cuts() {
+        Check.sentence(5, "(All that is divided is cut towards 0.)");
+        // Just below a whole number each time: HAND 60 by 31; END 179 by 90; BEND 2 by 3; BEND times STIFF 49 by 50.
+        thrower("20, 1, 0", "0, 0, 0", "31, 99, 0, 0").is(fling(1, 19, 0, PACE), 1);
+        thrower("90, 2, 0", "89, 0, 0", "31, 99, 0, 0").is(fling(1, 19, 0, PACE), 1);
+        Run.oneRound(2, 60, 1, 0).is(fling(1, 19, 0, BEND), 0);
+        Run.oneRound(49, 20, 49, 0).is(fling(1, 19, 0, PACE), 147);
+        // VX 98 of PACE 1, 99 times DRAG 10 by 1000, OFF 50 times 1019 by 1000.
+        Run.oneRound(1, 60, 99, 0).is(fling(1, 19, 1, RANGE), 0);
+        Run.oneRound(66, 40, 2, 3).is(fling(1, 19, 0, RANGE), 495);
+        thrower("20, 14, 0", "0, 0, 0", "21, 4, 0, 1").is("strikes(0, 0, 0, 0, 1019)", 1);
     }
 
     private static void off() {
